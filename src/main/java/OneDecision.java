@@ -1,6 +1,6 @@
 import java.util.Arrays;
 
-/** A king who decides one question a day: a realm told in a language, ruled by hand or by a rule, and looked ahead of. */
+/** A king who decides one question a day, in a realm that is told in a language, by hand or by a rule. */
 public final class OneDecision {
     public static final int NONE = -1;
 
@@ -15,8 +15,6 @@ public final class OneDecision {
     private static final int MOST_DAY = 999;
     private static final int LAST_TOLD_DAY = 60;
     private static final int TOLD_DAYS = LAST_TOLD_DAY + 1;
-    private static final int WOKE_DAYS = 8;
-    private static final int WOKE_SETS = 1 << WOKE_DAYS;
 
     private final Text tape = new Text();
     private final RuleReader ruleReader = new RuleReader();
@@ -26,6 +24,7 @@ public final class OneDecision {
     private final Image[] images = new Image[MOST_IMAGES];
     private final Trial trial = new Trial();
     private final RowSearch rowSearch = new RowSearch();
+    private final WakeSearch wakeSearch = new WakeSearch();
     /** What none, and each rule behind it, puts to the king on each day that can be told. */
     private final int[] puts = new int[(MOST_RULES + 1) * TOLD_DAYS];
 
@@ -337,25 +336,18 @@ public final class OneDecision {
         if (!asked || !isWithin(gained, 0, MOST_SUM) || !isWithin(what, 0, 2)) {
             return NO_ANSWER;
         }
-        int days = Math.min(n, WOKE_DAYS);
-        int found = 0;
-        int least = NO_SUCH;
-        int inAll = WOKE_SETS - 1;
-        for (int set = 0; set < 1 << days; set++) {
-            if (isGainedWaking(set, ruleOrNull(rule), n, gained)) {
-                least = found == 0 ? set : least;
-                found++;
-                inAll &= set;
-            }
+        trial.startAnew(now.state.realm, ruleOrNull(rule));
+        wakeSearch.find(trial, n, gained);
+        if (wakeSearch.found == 0) {
+            return what == 1 ? NO_SUCH : 0;
         }
         switch (what) {
             case 0:
-                // waking behind the n days changes nothing: each set found stands for all that go on alike
-                return found << (WOKE_DAYS - days);
+                return wakeSearch.found;
             case 1:
-                return least;
+                return wakeSearch.least;
             default:
-                return found == 0 ? 0 : inAll;
+                return wakeSearch.inAll;
         }
     }
 
@@ -542,17 +534,6 @@ public final class OneDecision {
             trial.passDay();
         }
         return trial.state.lostSet == lostBefore;
-    }
-
-    private boolean isGainedWaking(int set, Rule rule, int n, int gained) {
-        Realm told = now.state.realm;
-        trial.startAnew(told, rule);
-        trial.state.wakes = (told.wakes & ~(long) (WOKE_SETS - 1)) | set;
-        // what is gained never falls, and stays once every question is settled
-        for (int i = 0; i < n && trial.state.gained <= gained && !trial.state.isAllSettled(); i++) {
-            trial.passDay();
-        }
-        return trial.state.gained == gained;
     }
 
     /** As bits, none the lowest, by which all notes are so; each one's puts stand in its part of the row then. */
@@ -1189,7 +1170,7 @@ public final class OneDecision {
         }
 
         boolean isAllSettled() {
-            return settledSet() == (1 << realm.questions) - 1;
+            return (answeredSet | bundledSet | lostSet) == (1 << realm.questions) - 1;
         }
 
         boolean isOpen(int question) {
@@ -1197,7 +1178,7 @@ public final class OneDecision {
         }
 
         int openSet() {
-            int settled = settledSet();
+            int settled = answeredSet | bundledSet | lostSet;
             int open = 0;
             for (int i = 0; i < realm.questions; i++) {
                 if (day >= realm.from[i] && (settled >> i & 1) == 0) {
@@ -1285,10 +1266,6 @@ public final class OneDecision {
         /** Its part in the blame is by worth; when nothing of worth is lost, all weigh alike. */
         int weight(int question) {
             return lost > 0 ? worth[question] : 1;
-        }
-
-        private int settledSet() {
-            return answeredSet | bundledSet | lostSet;
         }
     }
 
@@ -1551,6 +1528,65 @@ public final class OneDecision {
                 bestBalance = balance;
                 System.arraycopy(tried, 0, best, 0, MOST_DAYS);
             }
+        }
+    }
+
+    /** Finds the sets of the first days on which he must have woken to gain so much. */
+    private static final class WakeSearch {
+        static final int MOST_DAYS = 8;
+        static final long ALL_DAYS = 255;
+
+        int found;
+        int least;
+        int inAll;
+        private final State[] states = new State[MOST_DAYS + 1];
+        private long wakesBehind;
+
+        WakeSearch() {
+            Realm untold = new Realm();
+            for (int i = 0; i <= MOST_DAYS; i++) {
+                states[i] = new State(untold);
+            }
+        }
+
+        /** The trial stands at the begin. */
+        void find(Trial trial, int n, int gained) {
+            found = 0;
+            least = (int) ALL_DAYS;
+            inAll = (int) ALL_DAYS;
+            wakesBehind = trial.state.wakes & ~ALL_DAYS;
+            states[0].copyFrom(trial.state);
+            tryFrom(0, 0, trial, n, gained);
+        }
+
+        private void tryFrom(int passed, int set, Trial trial, int n, int gained) {
+            State state = states[passed];
+            if (passed < n && passed < MOST_DAYS && !state.isAllSettled()) {
+                // what is gained never falls
+                for (int wakes = 0; wakes < 2 && state.gained <= gained; wakes++) {
+                    int tried = set | wakes << passed;
+                    trial.state.copyFrom(state);
+                    trial.state.wakes = wakesBehind | tried;
+                    trial.passDay();
+                    states[passed + 1].copyFrom(trial.state);
+                    tryFrom(passed + 1, tried, trial, n, gained);
+                }
+                return;
+            }
+            trial.state.copyFrom(state);
+            for (int i = passed; i < n && trial.state.gained <= gained && !trial.state.isAllSettled(); i++) {
+                trial.passDay();
+            }
+            if (trial.state.gained == gained) {
+                keep(passed, set);
+            }
+        }
+
+        /** Waking on a day that was not tried makes no difference: the set stands for all that go on otherwise. */
+        private void keep(int passed, int set) {
+            found += 1 << (MOST_DAYS - passed);
+            least = Math.min(least, set);
+            inAll &= set;
         }
     }
 }

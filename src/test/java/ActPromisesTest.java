@@ -314,8 +314,8 @@ public final class ActPromisesTest {
         x.undo();
         due("nothing to be UNDONE", x.count(14), 0);
         Texts.realm(x, "realm 7 0;question 1 0 0;question 1 0 0;wakes 0");
-        x.note(0, 0);
-        x.note(0, 0);
+        x.note(4, 0);
+        x.note(4, 0);
         x.feed(0, 0, 0, 0, 0);
         due("back(2)", x.back(2), 1);
         int[] wants = {2, 5, 4, 1, -1, 1, 3, 0, 4, 0, 0, 0, 1, 1, 3, 3, 20};

@@ -184,6 +184,9 @@ public final class AskedPromisesTest {
         OneDecision three = in("realm 0 0;question 5 0 0;question 5 0 0;question 5 0 0");
         due("two of three", three.rescue(1, 0), 2);
         due("the least set", three.rescue(1, 1), 3);
+        OneDecision eight = in("realm 0 0;wakes 0" + ";question 0 0 0".repeat(8));
+        due("all eight", eight.rescue(1, 0), 8);
+        due("all eight", eight.rescue(1, 1), 255);
         OneDecision star = in("realm 0 0;question 5 0 0;question 5 0 0;question 5 0 0;question 5 0 0;question 5 1 1;"
                 + "alike 0 1;alike 0 2;alike 1 3;alike 1 2;alike 3 0;wakes 0;wakes 1");
         due("a later one is lost", star.rescue(2, 0), -2);
@@ -209,6 +212,9 @@ public final class AskedPromisesTest {
         star.tie(2, 0);
         due("not by one that is not OPEN", star.cover(0), 2);
         due("not by one that is not OPEN", star.cover(1), 5);
+        OneDecision eight = in("realm 0 0" + ";question 0 0 0".repeat(8));
+        due("all eight", eight.cover(0), 8);
+        due("all eight", eight.cover(1), 255);
         OneDecision none = in("realm 0 0");
         due("nothing OPEN", none.cover(0), 0);
         due("nothing OPEN", none.cover(1), 0);

@@ -121,6 +121,8 @@ public final class LanguagePromisesTest {
         realmFault("Realm 0 0", 0, 0);
         realmFault("realM 0 0", 0, 0);
         realmFault("realms 0 0", 0, 0);
+        realmFault("realma 0 0", 0, 0);
+        realmFault("realmz 0 0", 0, 0);
         realmFault("ask 1", 0, 0);
         realmFault("worth 0 0", 0, 0);
         realmFault("7", 0, 0);
