@@ -1269,11 +1269,12 @@ public final class OneDecision {
         }
     }
 
-    /** The states ahead of the last acts, the oldest first. */
+    /** The states ahead of the last acts, in a ring, of which the oldest is overwritten when it is full. */
     private static final class Past {
         static final int MOST_ACTS = 20;
 
         int size;
+        private int oldest;
         private final State[] states = new State[MOST_ACTS];
 
         Past(Realm realm) {
@@ -1284,27 +1285,30 @@ public final class OneDecision {
 
         void push(State state) {
             if (size >= MOST_ACTS) {
-                State oldest = states[0];
-                System.arraycopy(states, 1, states, 0, MOST_ACTS - 1);
-                states[MOST_ACTS - 1] = oldest;
+                oldest = placeOf(1);
                 size = MOST_ACTS - 1;
             }
-            states[size].copyFrom(state);
+            states[placeOf(size)].copyFrom(state);
             size++;
         }
 
         void pop(State state) {
             if (size > 0) {
                 size--;
-                state.copyFrom(states[size]);
+                state.copyFrom(states[placeOf(size)]);
             }
         }
 
         void copyFrom(Past other) {
             size = other.size;
+            oldest = 0;
             for (int i = 0; i < size; i++) {
-                states[i].copyFrom(other.states[i]);
+                states[i].copyFrom(other.states[other.placeOf(i)]);
             }
+        }
+
+        private int placeOf(int act) {
+            return (oldest + act) % MOST_ACTS;
         }
     }
 
