@@ -314,6 +314,28 @@ public final class ActBoundsTest {
         doc.due("none OPEN", x.day(), -1);
         doc.due("WASTED", x.day(), -1);
         doc.due("ACTS", x.count(14), 3);
+        OneDecision old = dayOf999();
+        int[] seen = Sentences.sight(old);
+        doc.due("at DAY 999", old.day(), -2);
+        doc.stays(old, seen);
+        doc.due("undo()", old.undo(), 19);
+        doc.due("DAY", old.count(5), 998);
+        doc.due("undo() of the egg", old.undo(), 18);
+
+        doc.says("DAYS go on by the RULE IN FORCE, beyond 999, too");
+        for (int n = 0; n <= 4; n++) {
+            doc.due("KEPT behind " + n, old.ahead(0, n, 3), Math.min(n, 3));
+        }
+    }
+
+    /** It comes there by more than 512 calls, behind which answers are free; this class answers as ahead of them. */
+    private OneDecision dayOf999() {
+        OneDecision x = doc.in("realm 3 0");
+        for (int day = 0; day < 999; day++) {
+            x.egg();
+            x.day();
+        }
+        return x;
     }
 
     private void usePromise() {

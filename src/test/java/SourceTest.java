@@ -15,6 +15,7 @@ import com.sun.source.tree.TryTree;
 import com.sun.source.tree.VariableTree;
 import com.sun.source.tree.WhileLoopTree;
 import com.sun.source.util.JavacTask;
+import com.sun.source.util.TreePath;
 import com.sun.source.util.TreePathScanner;
 import com.sun.source.util.Trees;
 import java.io.IOException;
@@ -28,6 +29,8 @@ import java.util.Map;
 import java.util.Set;
 import javax.lang.model.element.Element;
 import javax.lang.model.element.Modifier;
+import javax.lang.model.type.ArrayType;
+import javax.lang.model.type.TypeMirror;
 import javax.tools.JavaCompiler;
 import javax.tools.StandardJavaFileManager;
 import javax.tools.ToolProvider;
@@ -179,8 +182,17 @@ public final class SourceTest extends TreePathScanner<Void, Element> {
 
     @Override
     public Void visitMethodInvocation(MethodInvocationTree tree, Element in) {
-        call(in, trees.getElement(getCurrentPath()), tree);
+        Element to = trees.getElement(getCurrentPath());
+        call(in, to, tree);
+        if (to != null && to.getSimpleName().contentEquals("arraycopy") && !isOfNumbers(tree.getArguments().get(0))) {
+            fault("arraycopy of what are no numbers", tree);
+        }
         return super.visitMethodInvocation(tree, in);
+    }
+
+    private boolean isOfNumbers(Tree row) {
+        TypeMirror type = trees.getTypeMirror(new TreePath(getCurrentPath(), row));
+        return type instanceof ArrayType array && array.getComponentType().getKind().isPrimitive();
     }
 
     @Override

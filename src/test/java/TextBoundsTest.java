@@ -231,6 +231,12 @@ public final class TextBoundsTest {
         realmOf("realm1 2;question3 4 5;wakes6", 1);
         ruleFault("^asks 1", CANNOT_STAND);
         ruleFault("^as 1", CANNOT_STAND);
+        for (String other : new String[] {"bsk", "zsk", "atk", "asj", "asl"}) {
+            ruleFault("^" + other + " 1", CANNOT_STAND);
+        }
+        realmFault("^sealm 0 0", CANNOT_STAND);
+        realmFault("realm 0 0;^vakes 0", CANNOT_STAND);
+        realmFault("realm 0 0;^waket 0", CANNOT_STAND);
         ruleFault("ask ^wortha", CANNOT_STAND);
         ruleFault("ask ^worthz", CANNOT_STAND);
         ruleFault("ask ^wort", CANNOT_STAND);
@@ -491,6 +497,12 @@ public final class TextBoundsTest {
         doc.due("end(6)", x.end(6), 6);
         doc.due("end(7)", x.end(7), -1);
         doc.due("its first alone", x.rule(), fault(6, CANNOT_STAND));
+        Texts.feed(x, "ask worths");
+        x.end(9);
+        doc.due("a WORD is cut", x.rule(), 0);
+        Texts.feed(x, "ask 123456");
+        x.end(9);
+        doc.due("a NUMBER is cut", x.rule(), 1);
         Texts.feed(x, "ask 1");
         doc.due("end(0)", x.end(0), 0);
         doc.due("bytes", x.count(16), 0);
